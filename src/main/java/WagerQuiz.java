@@ -228,7 +228,7 @@ public final class WagerQuiz {
             case 4:
                 return placeOf(player);
             case 5:
-                return now.phase == OPEN ? now.open.countingTick(player) : NONE;
+                return now.phase == OPEN ? now.open.countingTicks[player] : NONE;
             case 6:
                 return now.finale.wagers[player];
             case 7:
@@ -432,12 +432,13 @@ public final class WagerQuiz {
             return refused(LOG_FULL);
         }
         int clue = now.open.clue;
-        if (now.log.answersTo(clue) == 0) {
+        if (now.open.answered == 0) {
             now.log.append(player, FIRST_ANSWER, clue, valueOf(clue), right ? 1 : 0);
         } else {
             int share = valueOf(clue) * now.settings[STEAL_SHARE] / 100;
             now.log.append(player, STEAL, clue, share, right ? 1 : 0);
         }
+        now.open.answered |= 1 << player;
         if (right) {
             now.phase = PICKING;
         }
@@ -475,7 +476,7 @@ public final class WagerQuiz {
             return refused(WRONG_PHASE);
         }
         now.phase = PICKING;
-        return now.log.answersTo(now.open.clue);
+        return Integer.bitCount(now.open.answered);
     }
 
     private int doWager(int amount) {
@@ -723,8 +724,8 @@ public final class WagerQuiz {
 
     private boolean isQueued(int player) {
         return now.phase == OPEN
-                && now.open.countingTick(player) != NONE
-                && !now.log.hasAnswered(player, now.open.clue);
+                && now.open.countingTicks[player] != NONE
+                && bitOf(now.open.answered, player) == 0;
     }
 
     private int queueLength() {
@@ -738,8 +739,8 @@ public final class WagerQuiz {
     }
 
     private boolean isQueuedAhead(int player, int other) {
-        int tick = now.open.countingTick(player);
-        int otherTick = now.open.countingTick(other);
+        int tick = now.open.countingTicks[player];
+        int otherTick = now.open.countingTicks[other];
         if (tick != otherTick) {
             return tick < otherTick;
         }
@@ -797,6 +798,8 @@ public final class WagerQuiz {
         int reading;
         int lock;
         int wager;
+        int answered;
+        final int[] countingTicks = new int[PLAYER_ROOM];
         final long[] ticksBelow64 = new long[PLAYER_ROOM];
         final long[] ticksFrom64 = new long[PLAYER_ROOM];
 
@@ -805,7 +808,9 @@ public final class WagerQuiz {
             reading = readingThen;
             lock = lockThen;
             wager = 0;
+            answered = 0;
             for (int player = 0; player < PLAYER_ROOM; player++) {
+                countingTicks[player] = NONE;
                 ticksBelow64[player] = 0L;
                 ticksFrom64[player] = 0L;
             }
@@ -822,16 +827,11 @@ public final class WagerQuiz {
             } else {
                 ticksFrom64[player] |= 1L << (tick - 64);
             }
+            countingTicks[player] = leastCountingTick(player);
         }
 
-        int countingTick(int player) {
-            int from = reading;
-            for (int tick = 0; tick < reading; tick++) {
-                if (isTold(player, tick)) {
-                    from = Math.max(from, tick + lock);
-                }
-            }
-            for (int tick = from; tick < TICKS; tick++) {
+        private int leastCountingTick(int player) {
+            for (int tick = endOfLock(player); tick < TICKS; tick++) {
                 if (isTold(player, tick)) {
                     return tick;
                 }
@@ -839,11 +839,23 @@ public final class WagerQuiz {
             return NONE;
         }
 
+        private int endOfLock(int player) {
+            int end = reading;
+            for (int tick = 0; tick < reading; tick++) {
+                if (isTold(player, tick)) {
+                    end = Math.max(end, tick + lock);
+                }
+            }
+            return end;
+        }
+
         void copyFrom(PickedClue other) {
             clue = other.clue;
             reading = other.reading;
             lock = other.lock;
             wager = other.wager;
+            answered = other.answered;
+            System.arraycopy(other.countingTicks, 0, countingTicks, 0, PLAYER_ROOM);
             System.arraycopy(other.ticksBelow64, 0, ticksBelow64, 0, PLAYER_ROOM);
             System.arraycopy(other.ticksFrom64, 0, ticksFrom64, 0, PLAYER_ROOM);
         }
@@ -853,7 +865,13 @@ public final class WagerQuiz {
     private static final class FinalRound {
         int answers;
         final int[] startScores = new int[PLAYER_ROOM];
-        final int[] wagers = {NONE, NONE, NONE, NONE, NONE, NONE};
+        final int[] wagers = new int[PLAYER_ROOM];
+
+        FinalRound() {
+            for (int player = 0; player < PLAYER_ROOM; player++) {
+                wagers[player] = NONE;
+            }
+        }
 
         void begin(int[] scores) {
             for (int player = 0; player < PLAYER_ROOM; player++) {
@@ -951,15 +969,6 @@ public final class WagerQuiz {
                 }
             }
             return answers;
-        }
-
-        boolean hasAnswered(int player, int clue) {
-            for (int i = 0; i < size; i++) {
-                if (players[i] == player && clues[i] == clue) {
-                    return true;
-                }
-            }
-            return false;
         }
 
         void copyFrom(Log other) {

@@ -6,6 +6,9 @@ final class Check {
     static final long FULL = -10000004;
     static final long NONE = -10000005;
 
+    // A model that went astray would fill the log of a run.
+    private static final int MOST_LINES = 100;
+
     private int right;
     private int wrong;
 
@@ -13,8 +16,22 @@ final class Check {
         if (got == want) {
             right++;
         } else {
-            wrong++;
-            System.out.println(call + " answered " + got + ", due is " + want);
+            tellWrong(call + " answered " + got + ", due is " + want);
+        }
+    }
+
+    void holds(String what, boolean is) {
+        if (is) {
+            right++;
+        } else {
+            tellWrong("this does not hold: " + what);
+        }
+    }
+
+    private void tellWrong(String line) {
+        wrong++;
+        if (wrong <= MOST_LINES) {
+            System.out.println(line);
         }
     }
 

@@ -33,10 +33,6 @@ public final class FaceTest {
         CHECK.finish();
     }
 
-    private static void holds(String what, boolean is) {
-        CHECK.due(what, is ? 1 : 0, 1);
-    }
-
     private static void constants() {
         CHECK.due("UNKNOWN", WagerQuiz.UNKNOWN, -10000001);
         CHECK.due("BAD_VALUE", WagerQuiz.BAD_VALUE, -10000002);
@@ -55,20 +51,20 @@ public final class FaceTest {
         for (Field field : WagerQuiz.class.getDeclaredFields()) {
             if (!Modifier.isPrivate(field.getModifiers())) {
                 seen.add(field.getName());
-                holds(field + " is a constant", field.toString().startsWith("public static final int "));
+                CHECK.holds(field + " is a constant", field.toString().startsWith("public static final int "));
             }
         }
         for (Method method : WagerQuiz.class.getDeclaredMethods()) {
             if (!Modifier.isPrivate(method.getModifiers())) {
                 seen.add(signature(method));
-                holds(method + " is of the face", method.toString().startsWith("public int "));
+                CHECK.holds(method + " is of the face", method.toString().startsWith("public int "));
             }
         }
-        holds("the face is that of the document: " + seen, seen.equals(FACE));
+        CHECK.holds("the face is that of the document: " + seen, seen.equals(FACE));
         Constructor<?>[] constructors = WagerQuiz.class.getDeclaredConstructors();
-        holds("one public constructor without arguments", constructors.length == 1
+        CHECK.holds("one public constructor without arguments", constructors.length == 1
                 && constructors[0].toString().equals("public WagerQuiz()"));
-        holds("a public final class", WagerQuiz.class.getModifiers() == (Modifier.PUBLIC | Modifier.FINAL));
+        CHECK.holds("a public final class", WagerQuiz.class.getModifiers() == (Modifier.PUBLIC | Modifier.FINAL));
     }
 
     private static boolean isOfFace(Member member) {
@@ -77,23 +73,23 @@ public final class FaceTest {
 
     private static void privateNames() {
         for (Method method : WagerQuiz.class.getDeclaredMethods()) {
-            holds(method + " bears no public name", Modifier.isPublic(method.getModifiers()) || !isOfFace(method));
-            holds(method + " has at most seven parameters", method.getParameterCount() <= 7);
+            CHECK.holds(method + " bears no public name", Modifier.isPublic(method.getModifiers()) || !isOfFace(method));
+            CHECK.holds(method + " has at most seven parameters", method.getParameterCount() <= 7);
         }
     }
 
     private static void nestedClasses() {
         Class<?>[] nested = WagerQuiz.class.getDeclaredClasses();
-        holds("at most twelve classes", nested.length < 12);
+        CHECK.holds("at most twelve classes", nested.length < 12);
         for (Class<?> inside : nested) {
-            holds(inside + " is static", Modifier.isStatic(inside.getModifiers()));
-            holds(inside + " is not public", !Modifier.isPublic(inside.getModifiers()));
+            CHECK.holds(inside + " is static", Modifier.isStatic(inside.getModifiers()));
+            CHECK.holds(inside + " is not public", !Modifier.isPublic(inside.getModifiers()));
             for (Method method : inside.getDeclaredMethods()) {
-                holds(method + " bears no public name", !isOfFace(method));
+                CHECK.holds(method + " bears no public name", !isOfFace(method));
             }
         }
         for (Field field : WagerQuiz.class.getDeclaredFields()) {
-            holds(field + " is final if it is static", !Modifier.isStatic(field.getModifiers())
+            CHECK.holds(field + " is final if it is static", !Modifier.isStatic(field.getModifiers())
                     || Modifier.isFinal(field.getModifiers()));
         }
     }
@@ -105,8 +101,8 @@ public final class FaceTest {
             "\\bassert\\b", "->", "::", "\\bimport\\b", "\\bpackage\\b", "\\bprotected\\b", "\\bequals\\b",
             "\\bhashCode\\b", "\\btoString\\b", "Exact\\b", "\\bnative\\b", "\"\\s*\\+", "\\+\\s*\""};
         for (String pattern : banned) {
-            holds("no " + pattern, !Pattern.compile(pattern).matcher(code).find());
+            CHECK.holds("no " + pattern, !Pattern.compile(pattern).matcher(code).find());
         }
-        holds("plain signs", source.chars().allMatch(sign -> sign < 128));
+        CHECK.holds("plain signs", source.chars().allMatch(sign -> sign < 128));
     }
 }

@@ -10,6 +10,7 @@ public final class FinalRoundTest {
         wagerFinalErrors();
         limitsStandAsBegun();
         answersInOrder();
+        leastScores();
         fullLogInFinal();
         amountsAreLimitedByReplay();
         controlIsLeftAlone();
@@ -124,6 +125,20 @@ public final class FinalRoundTest {
         CHECK.due("a final answer counts as wrong", quiz.player(4, 2), 1);
     }
 
+    private static void leastScores() {
+        WagerQuiz quiz = Quizzes.withScores(0, 2, 1, 1);
+        CHECK.due("a score of 1 takes part", quiz.beginFinal(), 3);
+        CHECK.due("wanting", quiz.wagerFinal(1, 2), 2);
+        CHECK.due("wanting", quiz.wagerFinal(3, 1), 1);
+        CHECK.due("wanting", quiz.wagerFinal(2, 1), 0);
+        int[] turns = {2, 3, 1};
+        for (int player : turns) {
+            CHECK.due("turn", quiz.count(14), player);
+            quiz.answer(true);
+        }
+        CHECK.due("over", quiz.count(0), 6);
+    }
+
     private static void fullLogInFinal() {
         WagerQuiz quiz = Quizzes.withScores(200);
         Quizzes.fillLog(quiz);
@@ -175,6 +190,9 @@ public final class FinalRoundTest {
         CHECK.due("exactly half", Quizzes.withScores(200, 100).safeWager(0), 1);
         CHECK.due("below half", Quizzes.withScores(201, 100).safeWager(0), 0);
         CHECK.due("far above", Quizzes.withScores(900, 100).safeWager(0), 0);
+        CHECK.due("nobody else, and a score of 0", Quizzes.withScores(0).safeWager(0), Check.NONE);
+        CHECK.due("against the player 0", Quizzes.withScores(100, 190).safeWager(1), 11);
+        CHECK.due("against a score of 1", Quizzes.withScores(2, 1).safeWager(0), 1);
         CHECK.due("against a score of 0", Quizzes.withScores(1, 0).safeWager(0), 0);
         CHECK.due("against negative scores", Quizzes.withScores(1, -900, -3).safeWager(0), 0);
         CHECK.due("the greatest of the others", Quizzes.withScores(10, 90, 100, 80).safeWager(2), 81);

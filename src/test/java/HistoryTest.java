@@ -1,3 +1,5 @@
+import java.util.function.IntSupplier;
+
 /** Promises 18 to 20: undo, keep, restore. */
 public final class HistoryTest {
     private static final Check CHECK = new Check();
@@ -5,14 +7,19 @@ public final class HistoryTest {
     public static void main(String[] args) {
         undo();
         oldestIsDropped();
+        errorsLeaveFullHistory();
         undoIsNoAct();
         undoLeavesTextSlotsAndReason();
         everyActIsRecorded();
+        everyActOfTheBoardIsRecorded();
         everythingComesBack();
         keep();
         restore();
         restoreIsAnAct();
         slotsAndHistoryAreCopies();
+        slotsHoldDifferentLogs();
+        slotsHoldDifferentClues();
+        slotsHoldDifferentFinals();
         CHECK.finish();
     }
 
@@ -46,6 +53,22 @@ public final class HistoryTest {
         CHECK.due("reading", quiz.count(8), 1);
     }
 
+    private static void errorsLeaveFullHistory() {
+        WagerQuiz quiz = Quizzes.withPlayers(2);
+        for (int value = 1; value <= 5; value++) {
+            quiz.set(0, value);
+        }
+        CHECK.refused("close", quiz, quiz.close(), 1);
+        CHECK.due("setWagerClue(0, false)", quiz.setWagerClue(0, false), Check.NONE);
+        CHECK.due("correct(2, 0)", quiz.correct(2, 0), Check.UNKNOWN);
+        CHECK.due("runScript without a text", quiz.runScript(), -100);
+        for (int left = 4; left >= 0; left--) {
+            CHECK.due("undo", quiz.undo(), left);
+            CHECK.due("reading", quiz.count(8), left == 0 ? 10 : left);
+        }
+        CHECK.due("players", quiz.count(1), 2);
+    }
+
     private static void undoIsNoAct() {
         WagerQuiz quiz = new WagerQuiz();
         quiz.set(0, 1);
@@ -73,43 +96,61 @@ public final class HistoryTest {
         CHECK.due("the reason behind restore", quiz.count(11), 1);
     }
 
-    private static void acts(String act, WagerQuiz quiz, long answer, int before) {
-        CHECK.due(act + " does", answer >= -1000 ? 1 : 0, 1);
-        CHECK.due(act + " is recorded", quiz.count(12), before + 1);
-        quiz.undo();
-        CHECK.due(act + " is undone", quiz.count(12), before);
+    /** The call is recorded, and undo brings back all that was before it. */
+    private static void acts(String act, WagerQuiz quiz, IntSupplier call) {
+        String before = Quizzes.picture(quiz);
+        int states = quiz.count(12);
+        CHECK.holds(act + " does", call.getAsInt() >= -1000);
+        CHECK.due(act + " is recorded", quiz.count(12), states + 1);
+        CHECK.due(act + " is undone", quiz.undo(), states);
+        same(act + " undone", quiz, before);
     }
 
     private static void everyActIsRecorded() {
-        WagerQuiz quiz = Quizzes.quick(1);
-        acts("addPlayer", quiz, quiz.addPlayer(), 2);
-        acts("setWagerClue", quiz, quiz.setWagerClue(0, true), 2);
-        acts("set", quiz, quiz.set(1, 1), 2);
-        acts("pick", quiz, quiz.pick(0, 0), 2);
-        acts("correct", quiz, quiz.correct(0, 1), 2);
-        acts("beginFinal", quiz, quiz.beginFinal(), 2);
-        Quizzes.typeAll(quiz, "n");
-        acts("runScript", quiz, quiz.runScript(), 2);
-        quiz.keep(1);
-        CHECK.due("keep is no act", quiz.count(12), 2);
-        acts("restore", quiz, quiz.restore(1), 2);
-        quiz.pick(0, 0);
-        acts("buzz", quiz, quiz.buzz(0, 3), 3);
-        acts("close", quiz, quiz.close(), 3);
-        quiz.buzz(0, 3);
-        acts("answer", quiz, quiz.answer(true), 4);
+        WagerQuiz none = new WagerQuiz();
+        acts("addPlayer", none, none::addPlayer);
+        WagerQuiz board = new WagerQuiz();
+        acts("setWagerClue", board, () -> board.setWagerClue(0, true));
+        WagerQuiz settings = new WagerQuiz();
+        acts("set", settings, () -> settings.set(1, 1));
+        WagerQuiz picking = Quizzes.withPlayers(1);
+        acts("pick", picking, () -> picking.pick(0, 0));
+        WagerQuiz corrected = Quizzes.withPlayers(1);
+        acts("correct", corrected, () -> corrected.correct(0, 1));
+        WagerQuiz finale = Quizzes.withScores(100);
+        acts("beginFinal", finale, finale::beginFinal);
+        WagerQuiz script = Quizzes.withPlayers(1);
+        Quizzes.typeAll(script, "p00n");
+        acts("runScript", script, script::runScript);
+        WagerQuiz kept = Quizzes.withPlayers(1);
+        kept.keep(1);
+        CHECK.due("keep is no act", kept.count(12), 1);
+        kept.addPlayer();
+        acts("restore", kept, () -> kept.restore(1));
+    }
+
+    private static void everyActOfTheBoardIsRecorded() {
+        WagerQuiz open = Quizzes.quick(1);
+        open.pick(0, 0);
+        acts("buzz", open, () -> open.buzz(0, 3));
+        WagerQuiz closing = Quizzes.quick(1);
+        closing.pick(0, 0);
+        acts("close", closing, closing::close);
+        WagerQuiz buzzed = Quizzes.quick(1);
+        Quizzes.run(buzzed, "p00b003");
+        acts("answer", buzzed, () -> buzzed.answer(true));
         WagerQuiz wager = Quizzes.atWagerClue(1);
-        acts("wager", wager, wager.wager(3), 3);
+        acts("wager", wager, () -> wager.wager(3));
         WagerQuiz last = Quizzes.withScores(100);
         last.beginFinal();
-        acts("wagerFinal", last, last.wagerFinal(0, 3), 3);
+        acts("wagerFinal", last, () -> last.wagerFinal(0, 3));
         WagerQuiz log = Quizzes.quick(1);
         Quizzes.run(log, "p00b000+");
-        acts("rejudge", log, log.rejudge(0), 3);
+        acts("rejudge", log, () -> log.rejudge(0));
     }
 
     private static void same(String when, WagerQuiz quiz, String picture) {
-        CHECK.due(when + ": all is as it was", Quizzes.picture(quiz).equals(picture) ? 1 : 0, 1);
+        CHECK.holds(when + ": all is as it was", Quizzes.picture(quiz).equals(picture));
     }
 
     private static void everythingComesBack() {
@@ -206,5 +247,69 @@ public final class HistoryTest {
         quiz.answer(true);
         quiz.restore(0);
         same("the slot", quiz, picture);
+    }
+
+    /** The quiz, emptied, with what the restored slot would have to bring back. */
+    private static WagerQuiz withEmptySlot(int players) {
+        WagerQuiz quiz = Quizzes.quick(players);
+        quiz.setWagerClue(6, true);
+        quiz.keep(0);
+        return quiz;
+    }
+
+    private static void slotsHoldDifferentLogs() {
+        WagerQuiz quiz = withEmptySlot(2);
+        Quizzes.run(quiz, "p24b110b011-+");
+        quiz.keep(1);
+        quiz.restore(0);
+        quiz.correct(0, 3);
+        Quizzes.run(quiz, "p00b011+");
+        CHECK.due("restore(1)", quiz.restore(1), 2);
+        long[][] due = {{1, 0, 24, 500, 500, 0, -500, 0}, {0, 1, 24, 250, 250, 1, 250, 0}};
+        for (int entry = 0; entry < 2; entry++) {
+            for (int what = 0; what < 8; what++) {
+                CHECK.due("entry(" + entry + ", " + what + ")", quiz.entry(entry, what), due[entry][what]);
+            }
+        }
+    }
+
+    private static void slotsHoldDifferentClues() {
+        WagerQuiz quiz = withEmptySlot(1);
+        quiz.set(0, 20);
+        quiz.set(1, 3);
+        quiz.pick(0, 0);
+        quiz.buzz(0, 19);
+        quiz.keep(1);
+        quiz.restore(0);
+        quiz.pick(0, 1);
+        quiz.restore(1);
+        CHECK.due("clue", quiz.count(3), 0);
+        CHECK.due("the lock of the slot", quiz.buzz(0, 21), 0);
+        CHECK.due("the lock of the slot", quiz.buzz(0, 22), 1);
+        quiz.restore(0);
+        quiz.pick(0, 6);
+        quiz.wager(70);
+        quiz.keep(1);
+        quiz.restore(0);
+        quiz.pick(0, 6);
+        quiz.wager(80);
+        quiz.restore(1);
+        CHECK.due("the wager of the slot", quiz.answer(true), 70);
+    }
+
+    private static void slotsHoldDifferentFinals() {
+        WagerQuiz quiz = withEmptySlot(2);
+        quiz.correct(0, 30);
+        quiz.beginFinal();
+        quiz.keep(1);
+        quiz.restore(0);
+        quiz.correct(1, 40);
+        quiz.beginFinal();
+        quiz.wagerFinal(1, 40);
+        quiz.restore(1);
+        CHECK.due("the wagers of the slot", quiz.player(1, 6), Check.NONE);
+        CHECK.refused("the members of the slot", quiz, quiz.wagerFinal(1, 0), 6);
+        CHECK.due("the scores of the slot", quiz.wagerFinal(0, 30), 0);
+        CHECK.due("the turns of the slot", quiz.count(14), 0);
     }
 }

@@ -207,10 +207,7 @@ public final class QueriesTest {
 
     private static void message(WagerQuiz quiz, String due) {
         String got = Quizzes.message(quiz);
-        if (!got.equals(due)) {
-            System.out.println("the message is '" + got + "', due is '" + due + "'");
-        }
-        CHECK.due("the message '" + due + "'", got.equals(due) ? 1 : 0, 1);
+        CHECK.holds("the message is '" + got + "', due is '" + due + "'", got.equals(due));
         CHECK.due("behind the message", quiz.messageAt(due.length()), Check.NONE);
     }
 
@@ -242,7 +239,7 @@ public final class QueriesTest {
         int acts = quiz.count(12);
         String picture = Quizzes.picture(quiz);
         Quizzes.message(quiz);
-        CHECK.due("the same picture twice", Quizzes.picture(quiz).equals(picture) ? 1 : 0, 1);
+        CHECK.holds("the same picture twice", Quizzes.picture(quiz).equals(picture));
         CHECK.due("no acts", quiz.count(12), acts);
         CHECK.due("no reason", quiz.count(11), 0);
     }
