@@ -46,6 +46,8 @@ public final class WagerQuiz {
     private static final int NO_PLAYERS = 8;
 
     private static final int NO_FAULT = -1;
+    // The phase, and for each of six players a score of at most eight signs, take 90 signs at most.
+    private static final int MESSAGE_ROOM = 128;
 
     private final State now;
     private final Replay replay;
@@ -53,7 +55,7 @@ public final class WagerQuiz {
     private final State[] slots;
     private final boolean[] slotTaken;
     private final Script script;
-    private final StringBuilder message;
+    private final Message message;
     private int reason;
 
     public WagerQuiz() {
@@ -66,7 +68,7 @@ public final class WagerQuiz {
         }
         slotTaken = new boolean[SLOTS];
         script = new Script();
-        message = new StringBuilder();
+        message = new Message();
         reason = 0;
     }
 
@@ -173,7 +175,12 @@ public final class WagerQuiz {
             return -100 - fault;
         }
         history.prepare(now);
-        int moves = carryOutMoves();
+        int moves = 0;
+        int at = 0;
+        while (moves < TEXT_ROOM && at < script.length && !isError(doMove(at))) {
+            at += script.moveLength(at);
+            moves++;
+        }
         history.commit();
         return moves;
     }
@@ -332,7 +339,7 @@ public final class WagerQuiz {
             return BAD_VALUE;
         }
         writeMessage();
-        return index < message.length() ? message.charAt(index) : NONE;
+        return index < message.length ? message.signs[index] : NONE;
     }
 
     // ---- the acts, without their record in the history
@@ -411,64 +418,58 @@ public final class WagerQuiz {
     }
 
     private int doAnswer(boolean right) {
-        switch (now.phase) {
-            case OPEN:
-                return answerOpenClue(right);
-            case WAGER_TOLD:
-                return answerWagerClue(right);
-            case FINAL_ANSWERS:
-                return answerFinal(right);
-            default:
-                return refused(WRONG_PHASE);
+        if (now.phase != OPEN && now.phase != WAGER_TOLD && now.phase != FINAL_ANSWERS) {
+            return refused(WRONG_PHASE);
         }
-    }
-
-    private int answerOpenClue(boolean right) {
-        int player = playerInQueue(0);
-        if (player == NONE) {
+        int player = playerToAnswer();
+        if (!isPlayer(player)) {
             return refused(EMPTY_QUEUE);
         }
         if (now.log.isFull()) {
             return refused(LOG_FULL);
         }
-        int clue = now.open.clue;
-        if (now.open.answered == 0) {
-            now.log.append(player, FIRST_ANSWER, clue, valueOf(clue), right ? 1 : 0);
+        if (now.phase == OPEN) {
+            answerOpenClue(player, right);
+        } else if (now.phase == WAGER_TOLD) {
+            now.log.append(player, WAGER_ANSWER, now.open.clue, now.open.wager, right ? 1 : 0);
+            now.phase = PICKING;
         } else {
-            int share = valueOf(clue) * now.settings[STEAL_SHARE] / 100;
-            now.log.append(player, STEAL, clue, share, right ? 1 : 0);
+            answerFinal(player, right);
+        }
+        return replayedScore(player);
+    }
+
+    private int playerToAnswer() {
+        switch (now.phase) {
+            case OPEN:
+                return playerInQueue(0);
+            case WAGER_TOLD:
+                return controller();
+            default:
+                return now.finale.nextToAnswer();
+        }
+    }
+
+    private void answerOpenClue(int player, boolean right) {
+        int value = valueOf(now.open.clue);
+        if (now.open.answered == 0) {
+            now.log.append(player, FIRST_ANSWER, now.open.clue, value, right ? 1 : 0);
+        } else {
+            int share = value * now.settings[STEAL_SHARE] / 100;
+            now.log.append(player, STEAL, now.open.clue, share, right ? 1 : 0);
         }
         now.open.answered |= 1 << player;
         if (right) {
             now.phase = PICKING;
         }
-        return replayedScore(player);
     }
 
-    private int answerWagerClue(boolean right) {
-        if (now.log.isFull()) {
-            return refused(LOG_FULL);
-        }
-        int player = replay.control;
-        now.log.append(player, WAGER_ANSWER, now.open.clue, now.open.wager, right ? 1 : 0);
-        now.phase = PICKING;
-        return replayedScore(player);
-    }
-
-    private int answerFinal(boolean right) {
-        if (now.log.isFull()) {
-            return refused(LOG_FULL);
-        }
-        int player = now.finale.nextToAnswer();
-        if (player == NONE) {
-            return refused(WRONG_PHASE);
-        }
+    private void answerFinal(int player, boolean right) {
         now.log.append(player, FINAL_ANSWER, NONE, now.finale.wagers[player], right ? 1 : 0);
         now.finale.answers++;
         if (now.finale.answers >= now.finale.members()) {
             now.phase = OVER;
         }
-        return replayedScore(player);
     }
 
     private int doClose() {
@@ -486,7 +487,7 @@ public final class WagerQuiz {
         if (now.phase != WAGER_WANTED) {
             return refused(WRONG_PHASE);
         }
-        int limit = Math.max(replay.scores[replay.control], WAGER_FLOOR);
+        int limit = Math.max(replay.scoreOf(replay.control), WAGER_FLOOR);
         if (amount > limit) {
             return refused(BEYOND_LIMIT);
         }
@@ -559,17 +560,6 @@ public final class WagerQuiz {
         return replay.changedScores();
     }
 
-    private int carryOutMoves() {
-        int at = 0;
-        for (int moves = 0; moves < TEXT_ROOM; moves++) {
-            if (at >= script.length || isError(doMove(at))) {
-                return moves;
-            }
-            at += script.moveLength(at);
-        }
-        return TEXT_ROOM;
-    }
-
     private int doMove(int at) {
         switch (script.signAt(at)) {
             case 'p':
@@ -608,7 +598,7 @@ public final class WagerQuiz {
 
     private int replayedScore(int player) {
         replay.run(now.log);
-        return replay.scores[player];
+        return replay.scoreOf(player);
     }
 
     private void load(State state) {
@@ -710,13 +700,15 @@ public final class WagerQuiz {
     }
 
     private void writeMessage() {
-        message.setLength(0);
-        message.append("phase ").append(now.phase);
+        message.length = 0;
+        message.writeWords("phase ");
+        message.writeNumber(now.phase);
         for (int place = 0; place < now.players; place++) {
             int player = playerAtPlace(place);
-            if (isPlayer(player)) {
-                message.append("; p").append(player).append(' ').append(replay.scores[player]);
-            }
+            message.writeWords("; p");
+            message.writeNumber(player);
+            message.writeWords(" ");
+            message.writeNumber(replay.scoreOf(player));
         }
     }
 
@@ -1016,8 +1008,19 @@ public final class WagerQuiz {
             }
         }
 
+        int scoreOf(int player) {
+            return isSeat(player) ? scores[player] : 0;
+        }
+
+        private static boolean isSeat(int player) {
+            return player >= 0 && player < PLAYER_ROOM;
+        }
+
         private void replayEntry(Log log, int i) {
             int player = log.players[i];
+            if (!isSeat(player)) {
+                return;
+            }
             int told = log.amounts[i];
             voids[i] = log.sorts[i] == STEAL && solverOf(log.clues[i]) != NONE;
             amounts[i] = voids[i] ? 0 : limited(told, log.sorts[i], scores[player]);
@@ -1199,6 +1202,40 @@ public final class WagerQuiz {
                 number = 10 * number + signAt(at) - '0';
             }
             return number;
+        }
+    }
+
+    /** The message about the quiz, in a row that each call uses again. */
+    private static final class Message {
+        // No number of the message is as great as ten times this.
+        private static final int GREATEST_UNIT = 10000000;
+
+        int length;
+        final char[] signs = new char[MESSAGE_ROOM];
+
+        void writeWords(String words) {
+            for (int i = 0; i < words.length(); i++) {
+                write(words.charAt(i));
+            }
+        }
+
+        void writeNumber(int number) {
+            if (number < 0) {
+                write('-');
+            }
+            int rest = Math.abs(number);
+            for (int unit = GREATEST_UNIT; unit > 0; unit /= 10) {
+                if (rest >= unit || unit == 1) {
+                    write((char) ('0' + rest / unit % 10));
+                }
+            }
+        }
+
+        private void write(char sign) {
+            if (length < MESSAGE_ROOM) {
+                signs[length] = sign;
+                length++;
+            }
         }
     }
 }
