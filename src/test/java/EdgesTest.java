@@ -17,6 +17,7 @@ public final class EdgesTest {
     private static final Set<String> SECTIONS_WITHOUT_RUNS = Set.of("WagerQuiz", "The public face", "Not promised");
     private static final Check CHECK = new Check();
 
+    // Null where the document cannot be read; the runs are played all the same.
     private final Document document;
     private String section = "";
     private String sentence = "";
@@ -28,7 +29,10 @@ public final class EdgesTest {
     }
 
     public static void main(String[] args) throws IOException {
-        EdgesTest test = new EdgesTest(Document.read(DOCUMENT));
+        if (!Files.isReadable(DOCUMENT)) {
+            System.out.println("the quotations are not compared: there is no " + DOCUMENT);
+        }
+        EdgesTest test = new EdgesTest(Files.isReadable(DOCUMENT) ? Document.read(DOCUMENT) : null);
         List<Path> files;
         try (Stream<Path> all = Files.list(EDGES)) {
             files = all.filter(file -> file.toString().endsWith(".txt")).sorted().collect(Collectors.toList());
@@ -36,7 +40,9 @@ public final class EdgesTest {
         for (Path file : files) {
             test.play(Files.readAllLines(file, StandardCharsets.UTF_8));
         }
-        test.nothingIsLeftOut();
+        if (test.document != null) {
+            test.nothingIsLeftOut();
+        }
         CHECK.finish();
     }
 
@@ -62,7 +68,7 @@ public final class EdgesTest {
     private void quote(String words, boolean withoutRun) {
         endRun();
         CHECK.holds("the sentence has a run: " + sentence, hasRun);
-        CHECK.holds("section '" + section + "' says: " + words, document.quote(section, words));
+        CHECK.holds("section '" + section + "' says: " + words, document == null || document.quote(section, words));
         sentence = words;
         hasRun = withoutRun;
     }
