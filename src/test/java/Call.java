@@ -58,7 +58,7 @@ final class Call {
             return Boolean.valueOf(word);
         }
         if (type == char.class) {
-            return (char) Integer.parseInt(word);
+            return word.matches("'.'") ? word.charAt(1) : (char) Integer.parseInt(word);
         }
         return switch (word) {
             case "MIN" -> Integer.MIN_VALUE;
